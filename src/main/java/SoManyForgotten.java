@@ -403,19 +403,22 @@ public final class SoManyForgotten {
     }
 
     private int refused(int only) {
-        return refused(only, FINE, FINE, FINE);
+        return counted(only);
     }
 
     private int refused(int first, int second) {
-        return refused(first, second, FINE, FINE);
+        return counted(firstThatFits(first, second));
     }
 
     private int refused(int first, int second, int third) {
-        return refused(first, second, third, FINE);
+        return counted(firstThatFits(firstThatFits(first, second), third));
     }
 
     private int refused(int first, int second, int third, int fourth) {
-        int refusal = firstThatFits(firstThatFits(first, second), firstThatFits(third, fourth));
+        return counted(firstThatFits(firstThatFits(first, second), firstThatFits(third, fourth)));
+    }
+
+    private int counted(int refusal) {
         if (refusal <= NOBODY && refusal >= ROOM) {
             refusals[-refusal]++;
         }
@@ -536,7 +539,9 @@ public final class SoManyForgotten {
             System.arraycopy(from.kind, 0, kind, 0, MOST_PEOPLE);
             System.arraycopy(from.figure, 0, figure, 0, MOST_PEOPLE);
             System.arraycopy(from.owed, 0, owed, 0, MOST_PEOPLE);
-            System.arraycopy(from.here, 0, here, 0, MOST_PEOPLE);
+            for (int person = 0; person < MOST_PEOPLE; person++) {
+                here[person] = from.here[person];
+            }
             System.arraycopy(from.memories, 0, memories, 0, MOST_PEOPLE * MOST_PEOPLE);
             people = from.people;
             namesEachSpring = from.namesEachSpring;
@@ -573,7 +578,8 @@ public final class SoManyForgotten {
 
         private void addMemory(int one, int other, int more) {
             int at = one * MOST_PEOPLE + other;
-            memories[at] = Math.max(0, Math.min(MOST_MEMORY, memories[at] + more));
+            int v = memories[at] + more;
+            memories[at] = v < 0 ? 0 : Math.min(v, MOST_MEMORY);
         }
 
         void comes(int itsKind, int itsFigure) {
@@ -613,6 +619,7 @@ public final class SoManyForgotten {
             rememberAs(person, 0);
         }
 
+        // Memory of him of all others here.
         private void rememberAs(int person, int v) {
             for (int one = 0; one < people; one++) {
                 if (one != person && here[one]) {
@@ -621,7 +628,7 @@ public final class SoManyForgotten {
             }
         }
 
-        void rememberMore(int person, int more) {
+        private void rememberMore(int person, int more) {
             for (int one = 0; one < people; one++) {
                 if (one != person && here[one]) {
                     addMemory(one, person, more);
@@ -652,8 +659,9 @@ public final class SoManyForgotten {
         void passWeek() {
             week++;
             for (int person = 0; person < people; person++) {
-                if (here[person]) {
-                    rememberMore(person, kinds[kind[person]].change(week, owed[person], figure[person]));
+                int more = here[person] ? kinds[kind[person]].change(week, owed[person], figure[person]) : 0;
+                if (more != 0) {
+                    rememberMore(person, more);
                 }
             }
             if (week % WEEKS_TO_SPRING == 0) {

@@ -74,6 +74,7 @@ final class BondsTest {
         x.recalls(0, 3, 0);
         x.recalls(3, 0, 0);
         check.due("cold(1) ahead", x.cold(1), 3);
+        check.due("cold(0) with 0", x.cold(0), 3);
         x.weeks(10);
         check.due("cold(0) without the forgotten", x.cold(0), 2);
         check.due("cold(1) without the forgotten", x.cold(1), 13);
@@ -163,6 +164,8 @@ final class BondsTest {
         SoManyForgotten x = Check.of("px0;px0;px0;px0;px0;r1099;r2099;");
         check.due("two(0, 1, 9) of one well known", x.two(0, 1, 9), 1);
         check.due("two(1, 0, 9) of one well known", x.two(1, 0, 9), 10);
+        check.due("two by 31 more", Check.of("px0;px0;px0;px0;px0;r4098;").two(0, 1, 9), 11);
+        check.due("two by 30 more", Check.of("px0;px0;px0;px0;px0;r4099;").two(0, 1, 9), 1);
         check.due("two(0, 0, -1)", x.two(0, 0, -1), -1);
         check.due("two(5, 0, -1)", x.two(5, 0, -1), -1);
         check.due("two(0, -1, 31)", x.two(0, -1, 31), -1);
@@ -198,6 +201,9 @@ final class BondsTest {
         fraction("feast(0, 2, 3)", y.feast(0, 2, 3, 0), y.feast(0, 2, 3, 1), 8, 9);
         fraction("feast(1, 2, 20)", y.feast(1, 2, 20, 0), y.feast(1, 2, 20, 1), 1, 400);
         fraction("feast(0, 1, 3)", y.feast(0, 1, 3, 0), y.feast(0, 1, 3, 1), 1, 1);
+        // Without a feast both are known by 97 behind the week, with one 0 by 99 and 1 by 98.
+        SoManyForgotten z = Check.of("pd0;pp0;w09;r1097;r0198;");
+        fraction("feast(0, 1, 5)", z.feast(0, 1, 5, 0), z.feast(0, 1, 5, 1), 1, 5);
         x.weeks(1);
         fraction("feast of one forgotten", x.feast(1, 7, 20, 0), x.feast(1, 7, 20, 1), 0, 1);
         long refused = 4000000000000000000L;
@@ -330,6 +336,9 @@ final class BondsTest {
             }
             check.due("lots(" + i + ", 7, 1)", x.lots(i, 7, 1), known);
         }
+        // What the dog remembers is 20 less behind 20 weeks.
+        SoManyForgotten w = Check.of("px0;pp0;n0;");
+        check.due("lots(1, 7, 1) of 20 weeks", w.lots(1, 7, 1), 77 - 20 + 65);
         check.due("lots(0, 7, 2)", x.lots(0, 7, 2), -4);
         check.due("lots(21, 7, 2)", x.lots(21, 7, 2), -6);
         check.due("lots(1, 7, 2)", x.lots(1, 7, 2), -2);

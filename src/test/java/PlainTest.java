@@ -2,7 +2,7 @@ import java.util.Random;
 
 /** Long runs by lot, with a fixed seed: each answer is compared with that of the plain reading. */
 final class PlainTest {
-    private static final int RUNS = 150;
+    private static final int RUNS = Integer.getInteger("runs", 150);
     private static final int STEPS = 150;
     private static final String KINDS = "pdkqxw";
 

@@ -195,6 +195,22 @@ final class ThoughtTest {
         // He needs two who each remember him by 10 more, as either alone is too little.
         SoManyForgotten z = Check.of("pp0;px0;px0;pp0;r1090;r2090;r3000;r0350;r1375;r2375;w09;");
         check.due("fewest(0, 1) by two others", z.fewest(0, 1), 2);
+        fewestByOthers();
+    }
+
+    /** He gains 10 by each of 5, 6 and 7 once, and nothing by the others: 663 and 10, 20 or 30. */
+    private static void fewestByOthers() {
+        SoManyForgotten x = Check.of("pp0;pp0;px0;px0;px0;px0;px0;px0;w09;");
+        for (int p = 1; p < 8; p++) {
+            x.recalls(p, 0, p < 5 ? 99 : 89);
+            x.recalls(p == 1 ? 0 : p, 1, 99);
+        }
+        int[] ofOne = {68, 69, 78, 79, 88, 89, 98, 99};
+        int[] due = {0, 1, 1, 2, 2, 3, 3, -9};
+        for (int i = 0; i < due.length; i++) {
+            x.recalls(2, 1, ofOne[i]);
+            check.due("fewest(0, 1) against " + (594 + ofOne[i]), x.fewest(0, 1), due[i]);
+        }
     }
 
     private static void save() {
