@@ -120,6 +120,7 @@ final class BondsTest {
         check.due("power(0, 0) of one forgotten", x.power(0, 0), -4);
         check.due("power(0, 61) of one forgotten", x.power(0, 61), -6);
         check.due("power(1, 10)", x.power(1, 10), 10);
+        check.due("power of one known by 1", Check.of("pd0;pd0;r1001;").power(0, 5), 5);
         check.due("power of a dog without others", Check.of("px0;").power(0, 60), 0);
     }
 
@@ -195,6 +196,7 @@ final class BondsTest {
         fraction("feast(1, 1, 4)", x.feast(1, 1, 4, 0), x.feast(1, 1, 4, 1), 1, 4);
         fraction("feast(1, 7, 20)", x.feast(1, 7, 20, 0), x.feast(1, 7, 20, 1), 1, 20);
         fraction("feast(0, 7, 2)", x.feast(0, 7, 2, 0), x.feast(0, 7, 2, 1), 1, 2);
+        fraction("feast(1, 0, 2)", x.feast(1, 0, 2, 0), x.feast(1, 0, 2, 1), 1, 1);
         fraction("feast(0, 0, 2)", x.feast(0, 0, 2, 0), x.feast(0, 0, 2, 1), 1, 1);
         // They are 4 apart two weeks ahead: only two feasts make them alike.
         SoManyForgotten y = Check.of("pp0;pp0;w08;r1099;r0196;");
