@@ -1,17 +1,44 @@
+import java.util.ArrayList;
+import java.util.List;
+
 /** What the tests of the project share: answers that are compared, and valleys told in one text. */
 final class Check {
+    /** Words of the document, and the part of it where they stand. */
+    record Quotation(String place, String words) { }
+
+    private final List<Quotation> quotations = new ArrayList<>();
     private int wrong = 0;
-    private String promise = "";
+    private String heading = "";
 
     void promise(String name) {
-        promise = name;
+        heading = name;
+    }
+
+    /** Which promise ("Promise 2") or "Terms", and which of its sentences, the next answers are for. */
+    void at(String place, String words) {
+        heading = place + ", \"" + words + "\"";
+        quotations.add(new Quotation(place, words));
+    }
+
+    List<Quotation> quotations() {
+        return quotations;
     }
 
     void due(String call, long got, long want) {
         if (got != want) {
-            wrong++;
-            System.out.println(promise + ": " + call + " answered " + got + ", due is " + want);
+            tell(call + " answered " + got + ", due is " + want);
         }
+    }
+
+    void alike(String what, String got, String want) {
+        if (!got.equals(want)) {
+            tell(what + " is\n    " + got + "\n  due is\n    " + want);
+        }
+    }
+
+    void tell(String text) {
+        wrong++;
+        System.out.println(heading + ": " + text);
     }
 
     void finish() {
@@ -22,10 +49,14 @@ final class Check {
     }
 
     static int tell(SoManyForgotten x, String text) {
+        letters(x, text);
+        return x.valley();
+    }
+
+    static void letters(SoManyForgotten x, String text) {
         for (int i = 0; i < text.length(); i++) {
             x.letter(text.charAt(i));
         }
-        return x.valley();
     }
 
     static SoManyForgotten of(String... texts) {
@@ -42,6 +73,14 @@ final class Check {
     static SoManyForgotten rowOf(SoManyForgotten x, int... numbers) {
         for (int number : numbers) {
             x.row(number);
+        }
+        return x;
+    }
+
+    /** Lets weeks go by until it is that week, in as few calls as may be. */
+    static SoManyForgotten atWeek(SoManyForgotten x, int week) {
+        while (x.count(1) < week) {
+            x.weeks(Math.min(60, week - x.count(1)));
         }
         return x;
     }
