@@ -453,7 +453,7 @@ final class BondsEdges {
     }
 
     /** The sum of so many draws behind the seed, worked out in numbers that are never below 0. */
-    private static int draws(int z, int many) {
+    static int draws(int z, int many) {
         long seed = z & 0xffffffffL;
         int sum = 0;
         for (int i = 0; i < many; i++) {

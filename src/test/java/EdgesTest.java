@@ -15,6 +15,7 @@ final class EdgesTest {
         new StateEdges(check).run();
         new ThoughtEdges(check).run();
         new BondsEdges(check).run();
+        new FullEdges(check).run();
         new RefusedEdges(check).run();
         if (args.length > 1 && Files.exists(Path.of(args[1]))) {
             new Document(Path.of(args[1])).compare(check);

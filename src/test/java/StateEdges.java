@@ -1,3 +1,5 @@
+import java.util.function.Consumer;
+
 /** The edges of promises 4 to 12 and 38 to 40, and of the terms about people, weeks and springs. */
 final class StateEdges {
     private static final String EIGHT = "pp0;pp0;pp0;pp0;pp0;pp0;pp0;pp0;";
@@ -476,40 +478,47 @@ final class StateEdges {
         check.alike("what there is", Look.at(y), then);
     }
 
-    private void on() {
-        check.at("Promise 39", "ON from it: WEEK");
-        SoManyForgotten x = Check.of("pw4;pd5;pq6;px0;o133;r0177;n2;w13;");
-        check.due("image()", x.image(), 13);
-        String then = Look.at(x);
-        check.at("Terms", "ON from it all is as then");
-        x.turn(0, 4, 9);
-        onAndLook(x, then, "turn");
-        x.recalls(0, 1, 99);
-        onAndLook(x, then, "recalls");
-        x.owes(3, 99);
-        onAndLook(x, then, "owes");
-        x.names(0);
-        onAndLook(x, then, "names");
-        x.speaks(2, 3);
-        onAndLook(x, then, "speaks");
-        x.back(1);
-        onAndLook(x, then, "back");
-        Check.tell(x, "pp0;pp0;");
-        onAndLook(x, then, "those who come");
-        x.weeks(60);
-        onAndLook(x, then, "weeks");
-        onAndLook(x, then, "nothing");
-        Check.tell(x, "pp0;");
-        check.due("memory of one who comes behind it", x.memory(4, 0) + x.memory(0, 4), 100);
-        check.due("image() again", x.image(), 13);
-        x.weeks(3);
-        check.due("on() from the later", x.on(), 13);
-        check.due("count(0) of the later", x.count(0), 5);
+    /** Four of whom 1 is forgotten, in week 13, with an image of it. */
+    private static SoManyForgotten withImage() {
+        SoManyForgotten x = Check.of("pw4;pd5;pq6;px0;o133;r0177;w13;");
+        x.image();
+        return x;
     }
 
-    private void onAndLook(SoManyForgotten x, String then, String behind) {
-        check.due("on() behind " + behind, x.on(), 13);
-        check.alike("what there is behind " + behind, Look.at(x), then);
+    private void on() {
+        check.at("Promise 39", "ON from it: WEEK");
+        check.due("count(2)", withImage().count(2), 13);
+        check.due("on()", withImage().on(), 13);
+        check.at("Terms", "ON from it all is as then");
+        onBehind("turn", x -> x.turn(0, 4, 9));
+        onBehind("recalls", x -> x.recalls(0, 1, 99));
+        onBehind("owes", x -> x.owes(3, 99));
+        onBehind("names", x -> x.names(0));
+        onBehind("speaks", x -> x.speaks(2, 3));
+        onBehind("back", x -> x.back(1));
+        onBehind("those who come", x -> Check.tell(x, "pp0;pp0;"));
+        onBehind("weeks", x -> x.weeks(60));
+        onBehind("nothing", x -> { });
+        SoManyForgotten y = withImage();
+        Check.tell(y, "pp0;");
+        y.on();
+        Check.tell(y, "pp0;");
+        check.due("memory of one who comes behind it", y.memory(4, 0) + y.memory(0, 4), 100);
+        y.weeks(1);
+        check.due("image() again", y.image(), 14);
+        y.weeks(3);
+        check.due("on() from the later", y.on(), 14);
+        check.due("count(0) of the later", y.count(0), 5);
+    }
+
+    /** Twice, as the image is still there when all has gone on from it. */
+    private void onBehind(String what, Consumer<SoManyForgotten> change) {
+        SoManyForgotten x = withImage();
+        for (int time = 1; time <= 2; time++) {
+            change.accept(x);
+            check.due("on() behind " + what, x.on(), 13);
+            check.alike("what there is behind " + what, Look.at(x), Look.at(withImage()));
+        }
     }
 
     private void count() {
