@@ -6,9 +6,28 @@ final class Check {
     /** Words of the document, and the part of it where they stand. */
     record Quotation(String place, String words) { }
 
+    private static final long LONGEST_IN_MILLISECONDS = 300_000;
+
     private final List<Quotation> quotations = new ArrayList<>();
     private int wrong = 0;
-    private String heading = "";
+    private volatile String heading = "";
+
+    Check() {
+        Thread watch = new Thread(this::failIfItDoesNotEnd);
+        watch.setDaemon(true);
+        watch.start();
+    }
+
+    /** A call that never ends fails the test instead of holding it up. */
+    private void failIfItDoesNotEnd() {
+        try {
+            Thread.sleep(LONGEST_IN_MILLISECONDS);
+        } catch (InterruptedException e) {
+            return;
+        }
+        System.out.println(heading + ": the test did not end in time");
+        Runtime.getRuntime().halt(1);
+    }
 
     void promise(String name) {
         heading = name;

@@ -15,9 +15,10 @@ final class NeverThrowsTest {
     private static final String[] TEXTS = {
         "pp0;pd1;pk2;pq3;px4;pw5;", "pw4;", "n3;w10;", "w60;w60;w60;w60;w60;", "o199;s01;", "b0;", "r0199;", "n0;", "w99", "pp0;px"
     };
-    private static int wrong = 0;
+    private static final Check check = new Check();
 
     public static void main(String[] args) throws Exception {
+        check.promise("Any call in any state");
         List<Method> methods = Arrays.stream(SoManyForgotten.class.getDeclaredMethods())
             .filter(m -> Modifier.isPublic(m.getModifiers()))
             .sorted(Comparator.comparing(Method::getName)).toList();
@@ -31,9 +32,7 @@ final class NeverThrowsTest {
                 callOne(x, methods.get(random.nextInt(methods.size())), random);
             }
         }
-        if (wrong != 0) {
-            System.exit(1);
-        }
+        check.finish();
     }
 
     private static void callOne(SoManyForgotten x, Method m, Random random) throws IllegalAccessException {
@@ -69,7 +68,6 @@ final class NeverThrowsTest {
     }
 
     private static void tell(Method m, Object[] arguments, String text) {
-        wrong++;
-        System.out.println(m.getName() + Arrays.toString(arguments) + " " + text);
+        check.tell(m.getName() + Arrays.toString(arguments) + " " + text);
     }
 }

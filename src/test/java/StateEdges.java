@@ -194,6 +194,11 @@ final class StateEdges {
         check.due("count(2)", x.count(2), 7);
         check.due("person(2, 4)", x.person(2, 4), 40);
         check.due("person(2, 3)", x.person(2, 3), 0);
+        SoManyForgotten y = Check.of("pd3;w10;o044;");
+        y.back(0);
+        check.due("kind, figure and what he owes stay", 100 * y.person(0, 3) + y.turn(0, 0, 0), 4413);
+        SoManyForgotten z = Check.of("pd3;w10;o044;b0;");
+        check.due("by letters, too", 100 * z.person(0, 3) + z.turn(0, 0, 0), 4413);
     }
 
     private void names() {
